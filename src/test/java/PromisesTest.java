@@ -240,6 +240,7 @@ public final class PromisesTest {
         due("lends no more", x.lineOf(1, 1, 5), NONE);
         x.undo();
         due("undone: lender", x.lineOf(0, 0, 4), 11);
+        due("undone: borrower", x.lineOf(1, 1, 5), 0);
         due("undone: ending", x.lineOf(0, 0, 3), 3);
     }
 
@@ -319,6 +320,8 @@ public final class PromisesTest {
         x.undo();
         due("undone as one call", x.count(2), 2);
         due("undone thefts", x.wordOf(17, 6), 0);
+        due("undone losses", x.doorOf(0, 4), 1);
+        due("undone sum", x.count(3), 1);
         dueThrow(x, "sleep 0", ARGUMENT, () -> x.sleep(0));
         dueThrow(x, "sleep 21", ARGUMENT, () -> x.sleep(21));
         dueThrow(x, "sleep long", ARGUMENT, () -> x.sleep(MAX));
@@ -476,6 +479,9 @@ public final class PromisesTest {
         error("3,30,31,32,33,34/35,36,37,38,3", 30);
         error("3,30,31,32,33,34/35,36,37,38,39,2", 33);
         error("30,31,32,33,34/35,36,37,38,39,3", 31);
+        error("3,31,32,33,34,35/36,37,38,39,3", 30);
+        error("2,20,21,22,23,24/25,26,27,28,29,2", 32);
+        error("1,10,11,12,13,14/15,16,17,18,19,1", 32);
         error("30,31,32,33,34/35,36,37,38,39,39", 31);
     }
 
@@ -548,6 +554,7 @@ public final class PromisesTest {
         type(x, "0,1,39/8/16");
         due("its text", x.digest(), written);
         due("not undoable", x.count(8), 3);
+        due("a first line of one character", with("5/8,39").write(0), 6);
         dueThrow(x, "write 4", INDEX, () -> x.write(4));
         dueThrow(x, "write -1", INDEX, () -> x.write(-1));
     }
@@ -556,6 +563,7 @@ public final class PromisesTest {
         MagnetPoems x = with("12,21,24,33,30,15/18,10,13,16,22");
         with(x, 1, "0");
         x.clearDoor(1);
+        x.put(9, 1, 0, 0);
         int[][] more = {{27, 2}, {36, 2}, {39, 2}, {34, 2}, {28, 3}, {25, 3}, {19, 3}, {37, 3}};
         int length = 32;
         for (int[] word : more) {
@@ -566,6 +574,9 @@ public final class PromisesTest {
         due("write 56", x.write(0), 56);
         due("a word of one digit", x.put(1, 0, 2, 0), 0);
         due("write 58", x.write(0), 58);
+        due("a word of two digits", x.put(23, 0, 3, 4), 0);
+        due("write 61", x.write(0), NONE);
+        x.undo();
         due("another one", x.put(3, 0, 3, 0), 0);
         due("write 60", x.write(0), 60);
         due("one more", x.put(0, 0, 2, 5), 0);
@@ -775,6 +786,7 @@ public final class PromisesTest {
         due("a rhyme with line 0 or 1", x.bestWord(0, 2), 2);
         with(x, 1, "17,32/16,13");
         due("the eighth beat, with a rhyme", x.bestWord(1, 0), 34);
+        due("few beats left", with("8,5,2,13").bestWord(0, 0), 0);
         MagnetPoems full = with("0,1,6,3,12,9");
         due("a full line", full.bestWord(0, 0), NONE);
         MagnetPoems borrowed = with(with("0/21"), 1, "9");
