@@ -42,6 +42,10 @@ final class Checks {
         }
     }
 
+    int done() {
+        return done;
+    }
+
     boolean anyWrong() {
         return wrong > 0;
     }
