@@ -70,6 +70,17 @@ public final class FaceTest {
         return members;
     }
 
+    /** LANGUAGE.md, rule 1: no private method bears the name of a public one. */
+    private static TreeSet<String> namesBorneTwice() {
+        TreeSet<String> open = new TreeSet<>();
+        TreeSet<String> hidden = new TreeSet<>();
+        for (Method method : MagnetPoems.class.getDeclaredMethods()) {
+            (Modifier.isPrivate(method.getModifiers()) ? hidden : open).add(method.getName());
+        }
+        hidden.retainAll(open);
+        return hidden;
+    }
+
     public static void main(String[] args) {
         TreeSet<String> due = new TreeSet<>(Arrays.asList(FACE));
         due.add("public static final int NONE");
@@ -77,6 +88,7 @@ public final class FaceTest {
         Checks checks = new Checks();
         checks.dueOutcome("the face", visibleMembers().toString(), due.toString());
         checks.dueOutcome("the class", Modifier.toString(MagnetPoems.class.getModifiers()), "public final");
+        checks.dueOutcome("names borne twice", namesBorneTwice().toString(), "[]");
         checks.due("NONE", MagnetPoems.NONE, -1);
         checks.end();
     }

@@ -302,8 +302,11 @@ public final class GuessesEdgesTest extends Edges {
             x.sleep(i == 0 ? 19 : 20);
             model.sleep(i == 0 ? 19 : 20);
         }
-        x.put(0, 0, 0, 0);
-        model.put(0, 0, 0, 0);
+        x.put(2, 0, 0, 0);
+        x.set(1, 0);
+        model.put(2, 0, 0, 0);
+        model.set(1, 0);
+        due("nights", x.count(2), 9999);
         due("digest", x.digest(), model.digest());
     }
 

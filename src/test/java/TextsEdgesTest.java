@@ -394,6 +394,17 @@ public final class TextsEdgesTest extends Edges {
         writes("0/1/2/3", room("0/1/2/3"), 0);
     }
 
+    void promise14OnlyItsOwnLines() {
+        Room four = room("0/1/2/3", "4/5/6/7", "8/9/10/11", "12/13/14/15");
+        writes("0/1/2/3", four, 0);
+        writes("4/5/6/7", four, 1);
+        writes("8/9/10/11", four, 2);
+        writes("12/13/14/15", four, 3);
+        Room nearlyFull = () -> Rooms.line(Rooms.line(nearlyFull(5), 0, 3, 37), 2, 0, 38);
+        writes(LONGEST, nearlyFull, 1);
+        writes("37", nearlyFull, 0);
+    }
+
     void promise14NumbersWithoutLeadingZeros() {
         writes("9,10/0,39", room("9,10/0,39"), 0);
         writes("10", room("10"), 0);
