@@ -268,7 +268,7 @@ public final class GuessesEdgesTest extends Edges {
     void promise29ManyRooms() {
         hash("lived in", Rooms::livedIn, true, true, "17,4x");
         hash("a loan", Rooms::loan, false, false, "");
-        hash("a full door", () -> Rooms.set(Rooms.set(Rooms.with("5,8,1/17,20,13", "2,14,26/4,21"), 1, 0), 2, 0),
+        hash("a robbed room", () -> Rooms.set(Rooms.set(Rooms.with("5,8,1/17,20,13", "2,14,26/4,21"), 1, 0), 2, 0),
                 false, false, "");
     }
 

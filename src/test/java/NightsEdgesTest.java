@@ -274,7 +274,7 @@ public final class NightsEdgesTest extends Edges {
         changes("joints at ends", () -> Rooms.with("3,0,7"), x -> x.set(0, 1), "setting 0", "count 8");
         Room watched = () -> after(room(0, 3, "5,8"), x -> x.sleep(1));
         answers("watched as before", 3, () -> after(watched, x -> x.set(2, 0)), x -> x.doorOf(0, 3));
-        answers("watched no longer", 3, () -> after(watched, x -> x.set(2, 9)), x -> x.doorOf(0, 3));
+        answers("watched for no more nights", 3, () -> after(watched, x -> x.set(2, 9)), x -> x.doorOf(0, 3));
         answers("stolen as before", 1, () -> after(watched, x -> x.set(1, 200)), x -> x.count(3));
     }
 
